@@ -416,11 +416,12 @@ public final class JudgedTerms {
 
     /**
      * The rows of signs of one call: each normal form begins at a place of its own. Nothing is
-     * made anew for a call; the room holds what any text of 32 bytes can need (at most 100 signs
-     * for each byte, and the declared types).
+     * made anew for a call. The room holds what any text can need: for each byte at most a type
+     * and a term, besides the declared types and one type that is compared with another.
      */
     private static final class Signs {
-        private static final int ROOM = 4096;
+        private static final int ROOM = 2 * MAX_SIGNS * MAX_BYTES
+            + (MAX_FAMILIES + MAX_CONSTANTS + 1) * MAX_SIGNS;
         private static final int NO_SIGN = 0;
 
         private final int[] row = new int[ROOM];
@@ -587,11 +588,12 @@ public final class JudgedTerms {
     /**
      * Values of terms, each a node with a number; also scopes (which value each variable stands
      * for) and types (a place in Signs and the scope to read it in). Arguments of functions are
-     * data, so applying a function never applies another one inside it; that, and evaluating each
-     * argument once only, keeps the nodes of a call far below the room.
+     * data, so applying a function never applies another one inside it: a normal form of 50 signs
+     * takes at most some 22 times 50 nodes to evaluate, and as each argument is evaluated once
+     * only, a call needs less than the room.
      */
     private static final class Values {
-        private static final int ROOM = 4096;
+        private static final int ROOM = 3072;
         private static final int DEPTH = 2 * MAX_SIGNS + 4;
         /** The scope without variables; also what stands where the room was not enough. */
         private static final int EMPTY = 0;
@@ -699,7 +701,7 @@ public final class JudgedTerms {
         }
 
         /** Evaluates the normal form at a place, and leaves the place behind it in behind. */
-        int evaluate(int place, int scope, int depth) {
+        private int evaluate(int place, int scope, int depth) {
             int sign = signs.at(place);
             behind = place + 1;
             if (depth <= 0) {
@@ -728,7 +730,7 @@ public final class JudgedTerms {
             }
         }
 
-        int apply(int function, int argument, int depth) {
+        private int apply(int function, int argument, int depth) {
             if (kindOf(function) != FUNCTION) {
                 return make(APPLIED, function, argument);
             }
@@ -799,7 +801,7 @@ public final class JudgedTerms {
         }
 
         /** Writes the normal form of a type where n variables are in scope. */
-        void putType(int typeNode, int n) {
+        private void putType(int typeNode, int n) {
             int form = values.formOf(typeNode);
             put(form);
             if (tooLarge) {
@@ -829,7 +831,7 @@ public final class JudgedTerms {
         }
 
         /** Writes the normal form of a value of a type. */
-        void putTerm(int typeNode, int value, int n) {
+        private void putTerm(int typeNode, int value, int n) {
             if (tooLarge) {
                 return;
             }
