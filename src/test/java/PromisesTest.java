@@ -505,6 +505,10 @@ public final class PromisesTest {
             "\\\\\\\\\\\\\\\\\\\\........a23456789");
         due("eleven by a function type", b.given("P1P1P1PAPAPAPAPAPAPAPAA"), "!20");
         due("eleven in an inferred type", b.given("P1P1P1A\\\\\\....a"), "!14");
+
+        b = new Bench("kS1S1S1S1S1S1S1S11;");
+        due("ten in an inferred type", b.given("P1P11\\\\<a"), "\\\\*");
+        due("eleven in an inferred type", b.given("P1P1P11\\\\\\<a"), "!11");
     }
 
     private static void sameTypes() {
