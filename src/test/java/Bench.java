@@ -1,7 +1,12 @@
 /** A checker under test, with texts written as strings and normal forms read as strings. */
 final class Bench {
+    /** A term of A that has 29 signs, with the declarations of sizes(). */
+    static final String LEAVES_8 = "..b..b..baa..baa..b..baa..baa";
+
     private static int wrong = 0;
     private static int checks = 0;
+    /** The sentence of the document that is being tested, if the test named one. */
+    private static String sentence = "";
 
     final JudgedTerms terms = new JudgedTerms();
 
@@ -17,19 +22,46 @@ final class Bench {
         }
     }
 
-    static void due(String what, long got, long want) {
-        checks++;
-        if (got != want) {
+    /** Tests one sentence of the document; a call that throws breaks it, too. */
+    static void test(String words, Runnable checksOfIt) {
+        sentence = words + ": ";
+        try {
+            checksOfIt.run();
+        } catch (RuntimeException | StackOverflowError e) {
             wrong++;
-            System.out.println(what + ": answered " + got + ", due is " + want);
+            System.out.println(sentence + "threw " + e);
         }
+        sentence = "";
+    }
+
+    /**
+     * A checker whose entries are terms of A with 29, 47, 48, 49 and 50 signs. It has A; B with an
+     * index of A; a: A; b: a binary function; c: a pair; d: a function whose type grows with its
+     * argument, though its value does not.
+     */
+    static Bench sizes() {
+        Bench b = new Bench("f;fA;kA;kPAPAA;kSAA;kPAPB01;");
+        b.enters("A" + LEAVES_8);
+        b.enters("A..b#0..b..baa..b<c<c");
+        b.enters("A..b#0..b..b<ca..b<c<c");
+        b.enters("A..b#0..b..baa..b..baaa");
+        b.enters("A..b#0..b..baa..b..baa<c");
+        int[] many = {29, 47, 48, 49, 50};
+        for (int e = 0; e < many.length; e++) {
+            due("signs of entry " + e, b.entry(e, 1).length(), many[e]);
+        }
+        return b;
+    }
+
+    static void due(String what, long got, long want) {
+        due(what, String.valueOf(got), String.valueOf(want));
     }
 
     static void due(String what, String got, String want) {
         checks++;
         if (!got.equals(want)) {
             wrong++;
-            System.out.println(what + ": answered " + got + ", due is " + want);
+            System.out.println(sentence + what + ": answered " + got + ", due is " + want);
         }
     }
 
@@ -93,6 +125,15 @@ final class Bench {
         }
         due("found behind the end of " + bytes, terms.found(many), JudgedTerms.NONE);
         return form.toString();
+    }
+
+    /** Tests that given() tells this normal form, or "!" and the fault. */
+    void givenIs(String bytes, String want) {
+        due("given " + bytes, given(bytes), want);
+    }
+
+    void foundIs(String bytes, String want) {
+        due("found " + bytes, found(bytes), want);
     }
 
     String entry(int e, int part) {
