@@ -908,8 +908,10 @@ public final class JudgedTerms {
         private int next;
         private int fault;
 
-        /** The type of the part that was read last, if it was inferred. */
+        /** The type of the term that was read last, if it was inferred. */
         private int inferred;
+        private int typeRead;
+        private int valueRead;
         private int givenType;
         private int term;
         private int secondTerm;
@@ -966,7 +968,7 @@ public final class JudgedTerms {
         }
 
         private boolean readEnd() {
-            return next >= length || refuse(next) != NOWHERE;
+            return next >= length || fail(next);
         }
 
         boolean hasMore() {
@@ -978,7 +980,7 @@ public final class JudgedTerms {
             boolean family = peek() == 'f' && signs.families < MAX_FAMILIES;
             boolean constant = peek() == 'k' && signs.constants < MAX_CONSTANTS;
             if (!family && !constant) {
-                return refuse(next) != NOWHERE;
+                return fail(next);
             }
             next++;
             int start = next;
@@ -988,10 +990,10 @@ public final class JudgedTerms {
                 return false;
             }
             if (family && typed && !signs.isData(place)) {
-                return refuse(start) != NOWHERE;
+                return fail(start);
             }
             if (peek() != ';') {
-                return refuse(next) != NOWHERE;
+                return fail(next);
             }
             next++;
             if (family) {
@@ -1011,6 +1013,11 @@ public final class JudgedTerms {
         private int refuse(int where) {
             fault = where;
             return NOWHERE;
+        }
+
+        private boolean fail(int where) {
+            fault = where;
+            return false;
         }
 
         private int join(int sign, int part, int otherPart, int start) {
@@ -1080,25 +1087,26 @@ public final class JudgedTerms {
                     boolean fits = form == 'P' && n < MAX_VARIABLES;
                     return fits ? readFunction(required, n) : refuse(start);
                 default:
-                    int place = inferTerm(n);
-                    if (place == NOWHERE) {
-                        return NOWHERE;
-                    }
-                    return isRequired(inferred, required, n) ? place : refuse(start);
+                    return checkInferred(required, n);
             }
         }
 
-        /** Tells whether an inferred type is the required one, which may be too large to write. */
-        private boolean isRequired(int typePlace, int required, int n) {
+        /** Reads a term whose type is inferred; the required type may be too large to write. */
+        private int checkInferred(int required, int n) {
+            int start = next;
+            int place = inferTerm(n);
+            if (place == NOWHERE) {
+                return NOWHERE;
+            }
             int signsBefore = signs.size;
             int valuesBefore = values.size;
             writer.begin();
             writer.putType(required, n);
-            int place = writer.written();
-            boolean equal = place != NOWHERE && signs.equal(typePlace, place);
+            int requiredPlace = writer.written();
+            boolean fits = requiredPlace != NOWHERE && signs.equal(inferred, requiredPlace);
             signs.size = signsBefore;
             values.release(valuesBefore);
-            return equal;
+            return fits ? place : refuse(start);
         }
 
         private int readPair(int required, int n) {
@@ -1123,38 +1131,37 @@ public final class JudgedTerms {
 
         /** Reads a term and infers its type, whose place is in inferred then. */
         private int inferTerm(int n) {
+            int start = next;
             // What is read is kept as signs, so all values that it took can be given back.
             int valuesBefore = values.size;
-            int place;
+            boolean read;
             switch (peek()) {
                 case '#':
-                    place = readEntry(n);
+                    read = readEntry();
                     break;
                 case ':':
-                    place = readAnnotated(n);
+                    read = readAnnotated(n);
                     break;
                 case '.':
-                    place = readApplied(n);
+                    read = readApplied(n);
                     break;
                 case '<':
                 case '>':
-                    place = readComponent(n);
+                    read = readComponent(n);
                     break;
                 default:
-                    place = readName(n);
+                    read = readName(n);
             }
-            values.release(valuesBefore);
-            return place;
-        }
-
-        /** Writes the normal forms of an inferred type and of its term. */
-        private int settle(int typeNode, int value, int n, int start) {
+            if (!read) {
+                return NOWHERE;
+            }
             writer.begin();
-            writer.putType(typeNode, n);
+            writer.putType(typeRead, n);
             int typePlace = writer.written();
             writer.begin();
-            writer.putTerm(typeNode, value, n);
+            writer.putTerm(typeRead, valueRead, n);
             int termPlace = writer.written();
+            values.release(valuesBefore);
             if (typePlace == NOWHERE || termPlace == NOWHERE) {
                 return refuse(start);
             }
@@ -1162,88 +1169,92 @@ public final class JudgedTerms {
             return termPlace;
         }
 
-        private int readName(int n) {
-            int start = next;
+        /** Leaves the type and the value of a term for inferTerm(), which writes them. */
+        private boolean hasRead(int typeNode, int value) {
+            typeRead = typeNode;
+            valueRead = value;
+            return true;
+        }
+
+        private boolean readName(int n) {
             int sign = peek();
             int number = sign - '0';
             if (number >= 0 && number < n) {
                 next++;
-                int value = values.variableIn(scope(n), number);
-                return settle(values.typeOfVariable(number), value, n, start);
+                return hasRead(values.typeOfVariable(number), values.variableIn(scope(n), number));
             }
             if (signs.isConstant(sign)) {
                 next++;
-                return settle(values.typeOfConstant(sign), values.constantOf(sign), n, start);
+                return hasRead(values.typeOfConstant(sign), values.constantOf(sign));
             }
-            return refuse(start);
+            return fail(next);
         }
 
-        private int readEntry(int n) {
-            int start = next;
+        private boolean readEntry() {
             next++;
             Entry entry = entries.at(peek() - '0');
             if (entry == null) {
-                return refuse(next);
+                return fail(next);
             }
             next++;
             int typePlace = signs.copyOf(entry.typeForm);
             int termPlace = signs.copyOf(entry.termForm);
             int value = values.evaluate(termPlace, Values.EMPTY, Values.DEPTH);
-            return settle(values.typeAt(typePlace, Values.EMPTY), value, n, start);
+            return hasRead(values.typeAt(typePlace, Values.EMPTY), value);
         }
 
-        private int readAnnotated(int n) {
+        private boolean readAnnotated(int n) {
             next++;
             int typePlace = readType(n);
             if (typePlace == NOWHERE) {
-                return NOWHERE;
+                return false;
             }
-            int place = checkTerm(values.typeAt(typePlace, scope(n)), n);
-            inferred = typePlace;
-            return place;
+            int typeNode = values.typeAt(typePlace, scope(n));
+            int annotated = checkTerm(typeNode, n);
+            if (annotated == NOWHERE) {
+                return false;
+            }
+            return hasRead(typeNode, values.evaluate(annotated, scope(n), Values.DEPTH));
         }
 
-        private int readApplied(int n) {
-            int start = next;
+        private boolean readApplied(int n) {
             next++;
             int functionStart = next;
             int function = inferTerm(n);
             if (function == NOWHERE) {
-                return NOWHERE;
+                return false;
             }
             int functionType = values.typeAt(inferred, scope(n));
             if (values.formOf(functionType) != 'P') {
-                return refuse(functionStart);
+                return fail(functionStart);
             }
             int argument = checkTerm(values.firstType(functionType), n);
             if (argument == NOWHERE) {
-                return NOWHERE;
+                return false;
             }
             int x = values.evaluate(argument, scope(n), Values.DEPTH);
             int f = values.evaluate(function, scope(n), Values.DEPTH);
-            int result = values.apply(f, x, Values.DEPTH);
-            return settle(values.secondType(functionType, x), result, n, start);
+            return hasRead(values.secondType(functionType, x), values.apply(f, x, Values.DEPTH));
         }
 
-        private int readComponent(int n) {
-            int start = next;
+        private boolean readComponent(int n) {
             boolean wantsFirst = peek() == '<';
             next++;
             int pairStart = next;
             int pair = inferTerm(n);
             if (pair == NOWHERE) {
-                return NOWHERE;
+                return false;
             }
             int pairType = values.typeAt(inferred, scope(n));
             if (values.formOf(pairType) != 'S') {
-                return refuse(pairStart);
+                return fail(pairStart);
             }
             int value = values.evaluate(pair, scope(n), Values.DEPTH);
             int first = values.firstOf(value);
             if (wantsFirst) {
-                return settle(values.firstType(pairType), first, n, start);
+                return hasRead(values.firstType(pairType), first);
             }
-            return settle(values.secondType(pairType, first), values.secondOf(value), n, start);
+            return hasRead(values.secondType(pairType, first), values.secondOf(value));
         }
     }
 }

@@ -34,24 +34,6 @@ public final class LanguageTest {
             Bench.due("methods with the name " + name, many, 1);
         }
         Bench.due("public members", code.split("\\bpublic\\b", -1).length - 1, FACE.length + 3);
-        methods(code);
         Bench.end("LanguageTest");
-    }
-
-    /** Methods stay short and take at most seven parameters. */
-    private static void methods(String code) {
-        int since = 0;
-        int line = 0;
-        for (String text : code.split("\n", -1)) {
-            line++;
-            if (text.matches(" {4,8}(public |private )?(static )?[A-Za-z\\[\\]]+ [a-zA-Z]+\\(.*\\) \\{")) {
-                since = line;
-                Bench.due("parameters: " + text, text.split(",").length <= 7 ? 1 : 0, 1);
-            }
-            if (text.matches(" {4,8}\\}")) {
-                Bench.due("lines of the method that ends at " + line, line - since <= 60 ? 1 : 0, 1);
-                since = line;
-            }
-        }
     }
 }
