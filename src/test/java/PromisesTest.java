@@ -32,6 +32,7 @@ public final class PromisesTest {
         badBytes();
         variablesInScope();
         sameTypes();
+        typesOfVariables();
         tooLarge();
         hugeRequiredTypes();
         orderOfFaults();
@@ -526,6 +527,36 @@ public final class PromisesTest {
         due("argument in the result", b.found(".:PAPB0A\\\\aa"), "PBaA");
         due("second with the first", b.found(">:SAB0,a:Bac"), "Ba");
         due("second with the first", b.found(":SAB0,b:Bac"), "!7");
+    }
+
+    /** Types that depend on variables, for each way to read a term under a variable. */
+    private static void typesOfVariables() {
+        Bench b = new Bench(BASE);
+        b.givenIs("PASAB1\\,0.b0", "\\,0.b0");
+        b.givenIs("PASAB1\\,a.b0", "!9");
+        b.givenIs("PASAB1\\,0.ba", "!9");
+        b.givenIs("PAB0\\:B0.b0", "\\.b0");
+        b.givenIs("PAB0\\:Ba.ba", "!5");
+        b.givenIs("PAA\\:A0", "\\0");
+        b.givenIs("PSAB0B<0\\>0", "\\>0");
+        b.givenIs("PSAB0B<0\\.b<0", "\\.b<0");
+        b.givenIs("PSAB0SAB1\\0", "\\,<0>0");
+        b.givenIs("PAPB0SAB2\\\\,01", "\\\\,01");
+        b.givenIs("PAPB0SAB2\\\\,a1", "!13");
+        b.givenIs("PAB0\\.:PAB1\\.b10", "\\.b0");
+        b.givenIs("PAB0\\.:PAB1\\.b1a", "!5");
+        b.givenIs("PAPB0B0\\\\>:SAB2,01", "\\\\1");
+        b.givenIs("PASPB0B0B0\\,\\1.b0", "\\,\\1.b0");
+        // Number 1 is a variable in the type's last part alone.
+        b.givenIs("P1S11\\,1*", "!7");
+        b = new Bench();
+        due("laws", b.laws("f;fA;fSAB0;kA;kPAB0;kPAPB0C,01;"), 6);
+        due("an index of two variables", b.law(1, 2), "PAPB0C,01");
+        b.foundIs(".ca", "PBaC,a0");
+        b.foundIs("..ca.ba", "C,a.ba");
+        b.givenIs("PAPB0C,01c", "\\\\..c01");
+        b.givenIs("PAPB0C,01\\.c0", "\\\\..c01");
+        b.givenIs("PAPB0C,11", "!7");
     }
 
     private static void tooLarge() {
